@@ -848,8 +848,8 @@ public final class SlantSheets {
         }
 
         static int cos(int slant, int other) {
-            int d = Math.floorMod(slant - other, TURNS);
-            return COS[Math.min(d, TURNS - d)];
+            int d = slant > other ? slant - other : other - slant;
+            return COS[d > TURNS / 2 ? TURNS - d : d];
         }
 
         static int seenAt(int light, int tilt) {
@@ -1152,7 +1152,6 @@ public final class SlantSheets {
         int type = END;
         int start = 0;
         int end = 0;
-        int value = 0;
 
         TextReader(Tape tape, Scene scene) {
             this.tape = tape;
@@ -1297,11 +1296,20 @@ public final class SlantSheets {
 
         /** The number at hand, going on behind it; -1, going nowhere, if there is none from 0 to most. */
         private int takeNumber(int most) {
-            if (type != NUMBER || value > most) {
+            int number = type == NUMBER ? numberAtHand() : -1;
+            if (number < 0 || number > most) {
                 return -1;
             }
-            int number = value;
             next();
+            return number;
+        }
+
+        /** Numbers above 10000 are cut to it, as they can't stand anywhere either. */
+        private int numberAtHand() {
+            int number = 0;
+            for (int i = start; i < end; i++) {
+                number = Math.min(10000, number * 10 + tape.bytes[i] - '0');
+            }
             return number;
         }
 
@@ -1311,41 +1319,25 @@ public final class SlantSheets {
                 start++;
             }
             end = start;
-            if (start >= tape.length) {
-                type = END;
-            } else if (isLetter(tape.bytes[start])) {
-                type = WORD;
-                readWord();
-            } else if (isDigit(tape.bytes[start])) {
-                type = NUMBER;
-                readNumber();
-            } else {
-                type = tape.bytes[start] == ';' ? SIGN : OTHER;
+            type = END;
+            if (start < tape.length) {
+                type = typeOf(tape.bytes[start]);
+                end++;
+            }
+            while (end < tape.length && (type == WORD || type == NUMBER) && typeOf(tape.bytes[end]) == type) {
                 end++;
             }
         }
 
-        private void readWord() {
-            while (end < tape.length && isLetter(tape.bytes[end])) {
-                end++;
+        /** The type of the token that a byte begins; words and numbers go on with bytes of their own type. */
+        private static int typeOf(byte b) {
+            if (b >= 'a' && b <= 'z') {
+                return WORD;
             }
-        }
-
-        /** Numbers are cut to 10000: greater ones can stand nowhere either. */
-        private void readNumber() {
-            value = 0;
-            while (end < tape.length && isDigit(tape.bytes[end])) {
-                value = Math.min(10000, value * 10 + tape.bytes[end] - '0');
-                end++;
+            if (b >= '0' && b <= '9') {
+                return NUMBER;
             }
-        }
-
-        private static boolean isLetter(byte b) {
-            return b >= 'a' && b <= 'z';
-        }
-
-        private static boolean isDigit(byte b) {
-            return b >= '0' && b <= '9';
+            return b == ';' ? SIGN : OTHER;
         }
     }
 }
