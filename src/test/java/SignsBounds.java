@@ -175,6 +175,12 @@ final class SignsBounds {
         r.reads("eyes(0)", 1 << 4);
     }
 
+    /** Tilt 4 alone tells filters at 4, 10 and 7 apart; so do 1 and 2 together, a lesser set of more tilts. */
+    static void p31_eyes__fewer_TILTS_ahead_of_a_lesser_set(Run r) {
+        r.does("sheet(1, 4, 0)", "sheet(1, 10, 0)", "sheet(1, 7, 0)");
+        r.reads("eyes(200)", 1 << 4);
+    }
+
     static void p31_eyes__as_few_as_can_be_of_ten_SHEETS(Run r) {
         r.does("lamp(0, 2)", "sheet(5, 0, 0)");
         for (int turn = 3; turn < 12; turn++) {

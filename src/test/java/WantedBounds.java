@@ -102,6 +102,10 @@ final class WantedBounds {
         r.reads("nearest(0, 0, 1000)", 0);
         r.does("change(0, 2, 1000)");
         r.reads("nearest(0, 0, 0)", 0);
+        r.smokes(999);
+        r.reads("nearest(0, 0, 0)", 1);
+        r.does("change(0, 2, 0)", "change(1, 2, 1)");
+        r.reads("nearest(0, 0, 1000)", 1);
     }
 
     static void p20_nearest__behind_a_STACK_from_the_front(Run r) {
