@@ -11,13 +11,37 @@ final class PlainModel {
     final List<int[]> sheets = new ArrayList<>();
     final List<List<Integer>> stacks = new ArrayList<>();
     final List<int[]> looks = new ArrayList<>();
+    final List<Integer> spots = new ArrayList<>();
     int load = 0;
     int[] lamp = {1000, -1};
+    int z = 1;
 
     PlainModel() {
         for (int i = 0; i < 4; i++) {
             stacks.add(new ArrayList<>());
         }
+        for (int i = 0; i < 10; i++) {
+            spots.add(-1);
+        }
+    }
+
+    PlainModel copy() {
+        PlainModel other = new PlainModel();
+        for (int[] sheet : sheets) {
+            other.sheets.add(sheet.clone());
+        }
+        for (int i = 0; i < 4; i++) {
+            other.stacks.set(i, new ArrayList<>(stacks.get(i)));
+        }
+        for (int[] look : looks) {
+            other.looks.add(look.clone());
+        }
+        other.spots.clear();
+        other.spots.addAll(spots);
+        other.load = load;
+        other.lamp = lamp.clone();
+        other.z = z;
+        return other;
     }
 
     static int round(int v) {
@@ -91,12 +115,15 @@ final class PlainModel {
         return set;
     }
 
+    static int[] sky(int hour) {
+        boolean day = hour >= 6 && hour <= 17;
+        return new int[] {day ? 1000 : 100, day ? round(hour - 3) : -1};
+    }
+
     int hours(int stack, int tilt, int v) {
         int set = 0;
         for (int hour = 0; hour < 24; hour++) {
-            boolean day = hour >= 6 && hour <= 17;
-            int[] sky = {day ? 1000 : 100, day ? round(hour - 3) : -1};
-            set += seen(through(stacks.get(stack), false, sky), tilt) == v ? 1 << hour : 0;
+            set += seen(through(stacks.get(stack), false, sky(hour)), tilt) == v ? 1 << hour : 0;
         }
         return set;
     }

@@ -72,6 +72,9 @@ public final class PlainModelTest {
         int v = PlainModel.seen(m.through(m.stacks.get(stack), false, new int[] {1000, any(12)}), tilt);
         c.due(run + "hours", x.hours(stack, tilt, v), m.hours(stack, tilt, v));
         c.due(run + "hours", x.hours(stack, tilt, haze), m.hours(stack, tilt, haze));
+        int hour = any(24);
+        c.due(run + "sky share", x.sky(hour, 0), PlainModel.sky(hour)[0]);
+        c.due(run + "sky slant", x.sky(hour, 1), PlainModel.sky(hour)[1]);
     }
 
     /** A number that could be seen, as often as not. */
@@ -105,13 +108,13 @@ public final class PlainModelTest {
         int looks = any(3);
         List<List<Integer>> rows = m.rows(stack);
         List<Integer> row = rows.get(any(rows.size()));
+        c.due(run + "clear", x.clear(), m.looks.size());
         m.looks.clear();
-        x.clear();
         for (int i = 0; i < looks; i++) {
             int tilt = any(12);
             int v = any(9) == 0 ? any(1001) : m.seenThrough(row, tilt);
             m.looks.add(new int[] {tilt, v});
-            x.look(tilt, v);
+            c.due(run + "look", x.look(tilt, v), m.looks.size());
         }
         c.due(run + "apart", x.apart(stack), m.apart(stack));
         List<List<Integer>> fitting = m.fitting(stack);
