@@ -61,8 +61,10 @@ public final class PlainObjectTest {
                 text();
             } else if (now < 42) {
                 seenRow();
-            } else if (now < 48) {
-                ask(now < 45 ? "hold o#" : "copy sisim");
+            } else if (now < 46) {
+                sheetRow();
+            } else if (now < 52) {
+                ask(now < 49 ? "hold o#" : "copy sisim");
             } else {
                 String call = FACE[any(FACE.length)];
                 if (!RARE.contains(call) || any(4) == 0) {
@@ -164,5 +166,18 @@ public final class PlainObjectTest {
             due("write", s, i, (any(20) == 0 ? any(1001) : seen) | any(4) << 16);
         }
         due("judge", s, stack);
+    }
+
+    /** A row of sheets, for from() to lay; of 8 bits, the higher ones don't count. */
+    private void sheetRow() {
+        int s = any(4);
+        int stack = any(4);
+        int n = 1 + any(7);
+        due("row", s, 8 << any(3), n);
+        for (int i = 0; i < n; i++) {
+            due("write", s, i, any('#') | (any(4) == 0 ? any(4) << 8 : 0));
+        }
+        due("from", s, stack);
+        due("at", stack, any(6));
     }
 }
